@@ -135,6 +135,7 @@ public final class MergeTest {
         TailRecorder x = new TailRecorder();
         x.make(0, 0, 2, 1000);
         for (int v = 0; v < 16; v++) x.record(0, v, 9, 0);
+        x.record(0, 16, 8, 0);
         x.record(0, 20, 1, 0);
         x.record(0, 40, 70000, 0);
         x.record(0, 1000, 3, 0);
@@ -142,10 +143,11 @@ public final class MergeTest {
         x.shelve(0);
         x.example(0, 20, false, 1);
         Due.row("kinds", new long[] {x.kind(0, 0), x.kind(0, 1), x.kind(0, 2), x.kind(0, 3), x.kind(0, 31)}, 9, 10, 5, 0, 10);
-        Due.row("halve", new long[] {x.halve(0), x.at(0, 0), x.at(0, 15), x.at(0, 20), x.at(0, 40), x.at(0, 1000)}, 16 * 4 + 35001, 4, 4, 0, 35000, 1);
+        Due.row("halve", new long[] {x.halve(0), x.at(0, 0), x.at(0, 15), x.at(0, 16), x.at(0, 20), x.at(0, 40), x.at(0, 1000)},
+            16 * 4 + 4 + 35001, 4, 4, 4, 0, 35000, 1);
         Due.row("kinds, places behind the last slot", new long[] {x.kind(0, 0), x.kind(0, 1), x.kind(0, 2), x.kind(0, 3), x.kind(0, 31), x.peek(0, 0, 31, 12, 0)},
-            2, 1, 5, 0, 2, 9);
-        Due.row("to nothing, examples stay", new long[] {x.halve(0), x.halve(0), x.halve(0), x.examples(0), x.kind(0, 0)}, 16 * 2 + 17500, 16 + 8750, 4375, 1, 2);
+            2, 2, 5, 0, 2, 9);
+        Due.row("to nothing, examples stay", new long[] {x.halve(0), x.halve(0), x.halve(0), x.examples(0), x.kind(0, 0)}, 16 * 2 + 2 + 17500, 16 + 1 + 8750, 4375, 1, 2);
         x.make(1, 1, 1, 1000);
         Due.row("of an empty one, an act too", new long[] {x.halve(1), x.count(4), x.undo()}, 0, 8, 7);
     }

@@ -75,6 +75,11 @@ public final class RecordTest {
         Due.row("a full slot", new long[] {x.at(0, 40), x.record(0, 41, 1, 0), x.at(0, 40), x.count(4)}, MOST, -2, MOST, acts);
         Due.row("a full slot, awaited: nothing happens", new long[] {x.record(0, 82, 1, 41), x.at(0, 82), x.total(0)}, -2, 0, MOST);
         Due.row("the full slot is not awaited", new long[] {x.record(0, 80, 1, 41), x.record(0, 84, 1, 42), x.at(0, 42)}, 1, 1, 1);
+        x.make(1, 1, 1, 2000);
+        x.record(1, 40, 3, 0);
+        x.takeOff(0, 1);
+        Due.row("two units of room", new long[] {x.record(0, 40, 4, 0), x.record(0, 120, 2, 40), x.record(0, 40, 1, 0), x.record(0, 40, 2, 0), x.at(0, 40)},
+            -2, 2, MOST, -2, MOST);
         x.record(0, 300, 1, 0);
         x.halve(0);
         Due.row("room for more", new long[] {x.record(0, 40, 7, 0), x.at(0, 300)}, MOST / 2 + 7, 0);
@@ -107,6 +112,8 @@ public final class RecordTest {
         x.record(0, 1000, 1, 0);
         Due.row("of three", new long[] {x.rank(0, 0), x.rank(0, 33333), x.rank(0, 33334), x.rank(0, 66666), x.rank(0, 66667), x.rank(0, 100000)},
             7, 7, 41, 41, 1000, 1000);
+        x.record(0, 40, 2, 0);
+        Due.row("of five, just wanted", new long[] {x.rank(0, 20000), x.rank(0, 20001), x.rank(0, 80000), x.rank(0, 80001)}, 7, 41, 41, 1000);
         Due.row("without these", new long[] {x.rank(0, -1), x.rank(0, 100001), x.rank(1, 0), x.rank(-1, 0), x.rank(4, 0), x.rank(0, Integer.MIN_VALUE)}, -1, -1, -1, -1, -1, -1);
         x.make(1, 0, 2, TOP);
         for (int k = 1; k < 100; k++) { x.record(1, 3, TOP, 0); x.record(1, 500, TOP, 0); }

@@ -63,6 +63,8 @@ public final class TapeTest {
         x.record(0, 552, 1, 0);
         x.end(7);
         Due.row("more than 400", new long[] {x.pack(0), x.count(5), x.octet(0), x.octet(6), x.octet(7)}, -2, 7, 165, 1, -1);
+        x.record(0, 552, 999999999999L, 0);
+        Due.row("more than 400 within a number", new long[] {x.pack(0), x.count(5)}, -2, 7);
         x.takeOff(0, 0);
         x.record(0, 255, 1, 0);
         Due.row("a longer row of zeros is one number", new long[] {x.pack(0), x.octet(6), x.octet(7), x.octet(8)}, 9, 509 % 128 + C, 3, 2);

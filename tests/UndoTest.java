@@ -3,6 +3,7 @@ public final class UndoTest {
     public static void main(String[] args) {
         eachAct();
         theLastEight();
+        swapsBack();
         whatIsNoAct();
         whatHappensNot();
         theTape();
@@ -111,6 +112,17 @@ public final class UndoTest {
         x.make(1, 0, 1, 1000);
         Due.row("by turns", new long[] {x.undo(), x.at(1, 1000000000000L), x.kind(1, 270), x.undo(), x.undo(), x.at(0, 1), x.kind(0, -1), x.total(0), x.undo(), x.total(1), x.undo(), x.count(0)},
             6, 6, 2, 5, 4, 1, 7, 1, 3, 0, 2, 1);
+    }
+
+    private static void swapsBack() {
+        TailRecorder x = new TailRecorder();
+        x.make(0, 0, 1, 1000);
+        x.make(1, 0, 1, 1000);
+        x.record(0, 1, 2, 0);
+        x.record(1, 1, 3, 0);
+        Due.row("swaps", new long[] {x.swap(), x.total(1), x.swap(), x.total(0)}, 1, 0, 0, 0);
+        Due.row("undone", new long[] {x.undo(), x.total(0), x.total(1), x.count(1), x.count(3), x.read(), x.undo(), x.total(0), x.total(1), x.count(1), x.count(3), x.read()},
+            5, 2, 0, 1, 0, 2, 4, 2, 3, 0, -1, -1);
     }
 
     private static void whatIsNoAct() {

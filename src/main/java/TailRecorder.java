@@ -937,7 +937,8 @@ public final class TailRecorder {
         // ---- packing
 
         boolean packTo(Tape out) {
-            boolean fits = out.append(Tape.FIRST) && out.append(sort) && out.append(digits) && out.appendNumber(highest);
+            boolean fits = out.append(Tape.FIRST) && out.append(sort) && out.append(digits)
+                && out.appendNumber(highest);
             long zeros = 0;
             int last = lastUsed();
             for (int s = 0; s <= last && fits; s++) {
@@ -1147,7 +1148,6 @@ public final class TailRecorder {
 
         /** 0: none. */
         int faultOfAll() {
-            place = 0;
             readHead();
             if (fault == 0) {
                 checkSlots(slotOf(digits, highest) + 1);
@@ -1156,7 +1156,6 @@ public final class TailRecorder {
         }
 
         void fill(Ledger ledger) {
-            place = 0;
             readHead();
             ledger.open(sort, digits, highest);
             long s = 0;
@@ -1173,6 +1172,7 @@ public final class TailRecorder {
         }
 
         private void readHead() {
+            place = 0;
             if (nextByte(Tape.FIRST, Tape.FIRST) == NONE) {
                 return;
             }

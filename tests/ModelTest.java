@@ -2,8 +2,9 @@ import java.util.Random;
 
 /** Runs of calls, drawn by fixed seeds, answered by TailRecorder and by Model, which says the document again. */
 public final class ModelTest {
-    private static final int RUNS = 400;
-    private static final int CALLS = 512;
+    private static final int RUNS = 4000;
+    /** An object is used for 512 calls at most; one step makes fewer than 80. */
+    private static final int CALLS = 512 - 80;
     private static int wrong = 0;
 
     private final Random random;
@@ -12,6 +13,7 @@ public final class ModelTest {
     private final long seed;
     private final boolean bigNumbers;
     private final boolean fewActs;
+    private int calls = 0;
 
     private ModelTest(long seed) {
         this.seed = seed;
@@ -29,16 +31,16 @@ public final class ModelTest {
     }
 
     private void due(String call, long got, long want) {
+        calls++;
         if (got == want) return;
         wrong++;
         if (wrong < 20) System.out.println("seed " + seed + ": " + call + " answered " + got + ", the model " + want);
     }
 
     private void run() {
-        for (int k = 0; k < CALLS && wrong == 0; k++) {
+        for (int k = 0; calls < CALLS && wrong == 0; k++) {
             if (k < 4 && random.nextInt(4) != 0) made(k % 4); else call();
-            // the state, looked at by calls that change nothing; more calls than are promised are not needed
-            if (random.nextInt(4) == 0) look();
+            if (random.nextInt(12) == 0) look();
         }
     }
 
@@ -107,7 +109,7 @@ public final class ModelTest {
     }
 
     private void call() {
-        if (fewActs && random.nextInt(3) != 0) { look(); return; }
+        if (fewActs && random.nextInt(6) == 0) { look(); return; }
         int r = recorder();
         switch (random.nextInt(28)) {
             case 0: if (random.nextInt(6) == 0) made(r); else recorded(r); break;

@@ -156,7 +156,7 @@ public final class RecordTest {
         x.record(1, TOP, TOP, TOP / 1001);
         for (int k = 0; k < 7; k++) x.add(1, 1);
         java.math.BigInteger sum = java.math.BigInteger.ZERO;
-        for (long v = TOP; v >= TOP / 1001; v -= TOP / 1001) sum = sum.add(java.math.BigInteger.valueOf(x.edge(2, v, 2)));
+        for (long v = TOP; v >= TOP / 1001; v -= TOP / 1001) sum = sum.add(java.math.BigInteger.valueOf(Model.middle(2, Model.slotOf(2, v))));
         Due.row("of many slots", new long[] {x.about(1, 2), x.total(1)}, sum.divide(java.math.BigInteger.valueOf(1001)).longValue(), 1001 * 128 * TOP);
         Due.row("rank", new long[] {x.rank(1, 100000), x.rank(1, 99901), x.rank(1, 99800)}, TOP, TOP, Math.min(TOP, x.edge(2, TOP - 2 * (TOP / 1001), 1)));
     }

@@ -25,6 +25,7 @@ public final class SlotTest {
             -1, -1, -1, -1, -1, -1);
         for (int digits = 1; digits <= 2; digits++) {
             for (int bit = 0; bit < 63; bit++) {
+                x = new TailRecorder();
                 long v = 1L << bit;
                 long high = x.edge(digits, v, 1);
                 Due.due("the slot behind that of " + v, high == Long.MAX_VALUE ? 1 : x.slot(digits, high + 1) - x.slot(digits, v), 1);

@@ -19,14 +19,12 @@ public final class UndoTest {
             for (int what = 0; what < 5; what++) all.add(x.setting(r, what));
             all.add(x.total(r));
             all.add((long) x.examples(r));
-            for (int page = 0; page < x.kind(r, -1); page++) {
-                all.add((long) x.kind(r, page));
-                for (int place = 0; place < 16; place++) {
-                    all.add(x.peek(r, 0, page, place, 0));
-                    all.add(x.peek(r, 1, page, place, 0));
-                }
-            }
-            for (int v = 0; v < 50; v++) all.add(x.at(r, v));
+            for (int page = 0; page < 7; page++) all.add((long) x.kind(r, page));
+            for (int place = 0; place < 13; place++) all.add(x.peek(r, 1, 0, place, 0));
+            for (int v = 0; v < 5; v++) all.add(x.at(r, v));
+            all.add(x.at(r, 30));
+            all.add(x.at(r, 40));
+            all.add(x.below(r, 1000));
         }
         return all.stream().mapToLong(k -> k).toArray();
     }

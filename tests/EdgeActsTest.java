@@ -16,6 +16,7 @@ public final class EdgeActsTest {
         examplesToo();
         placesBeyondTheSlotsToo();
         whatWasThereToo();
+        nothingOfALargerOne();
         theTapeStaysWhatItIs();
         countsAre0To5();
         recordersAsBits();
@@ -211,6 +212,37 @@ public final class EdgeActsTest {
         x.record(1, 7, 9, 0);
         x.swap();
         Due.row("swap", new long[] {x.total(1), x.examples(1), x.undo(), x.total(1), x.examples(1), x.at(1, 7), x.count(1)}, 0, 0, 5, 12, 1, 9, 0);
+        x.swap();
+        x.record(0, top, 6, 0);
+        x.example(0, 0, false, 8);
+        x.swap();
+        Due.row("swap back", new long[] {x.total(0), x.examples(0), x.undo(), x.total(0), x.examples(0), x.peek(0, 1, 0, 0, 0), x.count(1), x.count(3), x.read()}, 0, 0, 7, 6, 1, 8, 1, 0, 6);
+    }
+
+    private static void nothingOfALargerOne() {
+        Due.sentence("UNDONE (MADE: nothing is left of the larger one)");
+        long top = 1000000000000L;
+        TailRecorder x = new TailRecorder();
+        x.make(0, 0, 1, 1000);
+        x.record(0, 5, 1, 0);
+        x.make(0, 0, 2, top);
+        x.record(0, top, 3, 0);
+        x.record(0, 2000, 3, 0);
+        x.example(0, top, true, 4);
+        Due.row("undo", new long[] {x.undo(), x.undo(), x.undo(), x.undo(), x.kind(0, -1), x.kind(0, 7), x.room(0), x.examples(0), x.total(0), x.setting(0, 4), x.about(0, 1), x.rank(0, 100000)},
+            5, 4, 3, 2, 7, -1, 16, 0, 1, 1, 5, 5);
+        Due.row("then", new long[] {x.shelve(0), x.shelve(0), x.halve(0), x.shelve(0), x.room(0), x.pack(0)}, 1, 0, 0, 1, 0, 5);
+        long[] units = new long[4329];
+        units[112] = 7;
+        units[4328] = 7;
+        Due.fill(x, Due.packed(0, 2, top, units));
+        Due.row("unpacked and undone", new long[] {x.unpack(0), x.total(0), x.undo(), x.kind(0, -1), x.total(0), x.room(0), x.shelve(0), x.setting(0, 4), x.about(0, 0)}, 4329, 14, 6, 7, 0, 0, 0, 0, -2);
+        x.record(0, 1000, 1, 0);
+        Due.row("then", new long[] {x.shelve(0), x.total(0), x.below(0, 1000), x.rank(0, 100000), x.about(0, 1), x.about(0, 2), x.pack(0), x.add(0, 0)}, 1, 1, 0, 1000, 1000, 1007, 8, 2);
+        x.make(2, 1, 1, 1000);
+        Due.fill(x, Due.packed(0, 2, top, units));
+        Due.row("of another sort", new long[] {x.unpack(2), x.undo(), x.setting(2, 0), x.shelve(2), x.kind(2, 7), x.room(2), x.total(2), x.examples(2)}, 4329, 7, 1, 0, -1, 0, 0, 0);
+        Due.row("a larger one again", new long[] {x.make(0, 0, 2, top), x.total(0), x.room(0), x.shelve(0), x.examples(0), x.at(0, top), x.kind(0, 270)}, 4329, 0, 0, 0, 0, 0, 0);
     }
 
     private static void theTapeStaysWhatItIs() {

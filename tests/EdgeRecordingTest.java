@@ -33,6 +33,8 @@ public final class EdgeRecordingTest {
         greatestIsHighestAtMost();
         meanIsDownwards();
         meanIsAsWideAsItMustBe();
+        meanOfManyWideSlots();
+        meanOfOneWideSlot();
         Due.finish();
     }
 
@@ -344,6 +346,42 @@ public final class EdgeRecordingTest {
         x.record(0, TOP / 2, TOP - 1, 0);
         java.math.BigInteger sum = product(middle, top).add(product(x.edge(2, TOP / 2, 2), TOP - 1));
         Due.due("and of one between", x.about(0, 2), sum.divide(java.math.BigInteger.valueOf(top + TOP + 512 + TOP - 1)).longValue());
+    }
+
+    private static void meanOfManyWideSlots() {
+        Due.sentence("MEAN: of all SLOTS MIDDLE * UNITS, together (sums as wide as they must be)");
+        for (int first = 4290; first < 4300; first++) {
+            long[] units = new long[first + 30];
+            java.math.BigInteger sum = java.math.BigInteger.ZERO;
+            long total = 0;
+            for (int s = first; s < units.length; s++) {
+                units[s] = MOST - (s * 7919L * (first + s) * 104729L) % (MOST / 2);
+                sum = sum.add(product(Model.middle(2, s), units[s]));
+                total += units[s];
+            }
+            TailRecorder x = new TailRecorder();
+            Due.fill(x, Due.packed(0, 2, TOP, units));
+            Due.row("slots " + first + " and on", new long[] {x.unpack(0), x.total(0), x.about(0, 2)}, 4329, total, sum.divide(java.math.BigInteger.valueOf(total)).longValue());
+        }
+    }
+
+    /** Just a multiple of TOTAL, and a little less: what is lost or won anywhere in the sum shows. */
+    private static void meanOfOneWideSlot() {
+        Due.sentence("MEAN: MIDDLE * UNITS, together, by TOTAL, downwards (of wide sums that just are a multiple, or are not)");
+        long[] units = {MOST, MOST - 1, 876543210987654L, 562949953421312L, 562949953421311L, 33554433, 33554431};
+        for (int s = 4328; s > 300; s = s > 4300 ? s - 7 : s * 5 / 6) {
+            for (long n : units) {
+                long[] row = new long[s + 1];
+                row[s] = n;
+                TailRecorder x = new TailRecorder();
+                Due.fill(x, Due.packed(0, 2, TOP, row));
+                Due.row(n + " of slot " + s, new long[] {x.unpack(0), x.about(0, 2)}, 4329, Model.middle(2, s));
+                row[s - 1] = 1;
+                Due.fill(x, Due.packed(0, 2, TOP, row));
+                java.math.BigInteger sum = product(Model.middle(2, s), n).add(java.math.BigInteger.valueOf(Model.middle(2, s - 1)));
+                Due.row("and 1 of the one ahead", new long[] {x.unpack(0), x.about(0, 2)}, 4329, sum.divide(java.math.BigInteger.valueOf(n + 1)).longValue());
+            }
+        }
     }
 
     private static java.math.BigInteger product(long a, long b) {

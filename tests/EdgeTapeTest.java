@@ -203,6 +203,12 @@ public final class EdgeTapeTest {
         x.undo();
         x.record(0, 552, 1, 0);
         Due.due("400, by the slot behind", x.pack(0), 400);
+        long[] units = {1, 64, 8192, 1000000000000L};
+        for (long n : units) {
+            x.record(0, 556, n, 0);
+            Due.row("401 and more, by a number of " + n + " units behind byte 399", new long[] {x.pack(0), x.count(5), x.octet(399)}, -2, 400, 2);
+            x.undo();
+        }
         x.make(1, 0, 2, 16384);
         x.add(1, 0);
         Due.row("401, by a longer head", new long[] {x.pack(1), x.count(5)}, -2, 400);
@@ -418,6 +424,14 @@ public final class EdgeTapeTest {
         fault("byte 0 and all else", 0, 1, 1, 9, 9, 0, 0);
         fault("sort and digits", 1, 1, 165, 9, 9, 232, 7);
         fault("digits and highest", 2, 1, 165, 0, 9, 0);
+        fault("sort and an end", 1, 1, 165, 9);
+        fault("sort and an end behind digits", 1, 1, 165, 9, 1, 232);
+        fault("sort above 127 and an end", 1, 1, 165, 200);
+        fault("digits and an end", 2, 1, 165, 0, 9);
+        fault("digits above 127 and an end", 2, 1, 165, 0, 200);
+        fault("digits above 127 and more than 9 bytes", 2, 1, 165, 0, 200, C, C, C, C, C, C, C, C, C, 0);
+        fault("digits and an end within highest", 2, 1, 165, 0, 9, 232);
+        fault("digits and highest of 10 bytes", 2, 1, 165, 0, 9, C, C, C, C, C, C, C, C, C, 0);
         fault("highest and a number", 3, 2, 165, 0, 1, 0, 0);
         fault("highest and an end", 3, 2, 165, 0, 1, 0, 130);
         fault("a number 0 and an end", 5, 3, bytes(HEAD, 0, 130));

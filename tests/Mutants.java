@@ -14,7 +14,7 @@ import java.util.regex.Pattern;
 
 /**
  * No test, and not run by .ci/run: breaks the class in one place after another and tells which breaks no test sees.
- * "java tests/Mutants.java [tests]" in the project's directory; without names, every test (some ten minutes on 8 cores).
+ * "java tests/Mutants.java [tests]" in the project's directory; without names, every test.
  */
 public final class Mutants {
     private static final Path SOURCE = Path.of("src/main/java/TailRecorder.java");
